@@ -249,7 +249,7 @@ public final class OutwardTape {
         static final int UP = 1;
         private static final long TOP_BIT = 1L << 62;
         private static final int SPARE_BITS = 10;
-        private static final int SUM_BITS = 9;
+        private static final int GUARD_BITS = 9;
         private static final int HALF_BITS = 26;
         private static final long HALF_MASK = (1L << HALF_BITS) - 1;
         private static final int QUOTIENT_BITS = 60;
@@ -316,10 +316,10 @@ public final class OutwardTape {
             long great = firstIsGreater ? a : b;
             long small = firstIsGreater ? b : a;
             int exponent = Rank.exponent(great);
-            long much = Rank.significand(great) << SUM_BITS;
-            long little = shifted(Rank.significand(small) << SUM_BITS, exponent - Rank.exponent(small));
+            long much = Rank.significand(great) << GUARD_BITS;
+            long little = shifted(Rank.significand(small) << GUARD_BITS, exponent - Rank.exponent(small));
             long total = (great < 0) == (small < 0) ? much + little : much - little;
-            return rounded(great < 0, total, exponent - SUM_BITS + scale, way);
+            return rounded(great < 0, total, exponent - GUARD_BITS + scale, way);
         }
 
         private static long shifted(long significand, int places) {
@@ -348,14 +348,14 @@ public final class OutwardTape {
             long m = Rank.significand(a) << liftA;
             long n = Rank.significand(b) << liftB;
             int exponent = Rank.exponent(a) - liftA + Rank.exponent(b) - liftB;
+            // A product of 106 bits does not fit: it is made of halves, as a head and a rest of 52 bits.
             long middle = (m >>> HALF_BITS) * (n & HALF_MASK) + (m & HALF_MASK) * (n >>> HALF_BITS);
             long tail = ((middle & HALF_MASK) << HALF_BITS) + (m & HALF_MASK) * (n & HALF_MASK);
             long head = (m >>> HALF_BITS) * (n >>> HALF_BITS) + (middle >>> HALF_BITS) + (tail >>> 2 * HALF_BITS);
             long rest = tail & (Rank.HIDDEN_BIT - 1);
-            int tailKept = SUM_BITS;
-            int tailLost = 2 * HALF_BITS - tailKept;
-            long full = (head << tailKept) | (rest >>> tailLost);
-            return rounded(negative, traced(full, (rest & ((1L << tailLost) - 1)) != 0), exponent + tailLost, way);
+            int lost = 2 * HALF_BITS - GUARD_BITS;
+            long full = traced((head << GUARD_BITS) | (rest >>> lost), (rest & ((1L << lost) - 1)) != 0);
+            return rounded(negative, full, exponent + lost, way);
         }
 
         /** How far the significand of a subnormal lies below the hidden bit's place. */
@@ -400,10 +400,10 @@ public final class OutwardTape {
             if (a == 0 || !Rank.isFinite(a)) {
                 return a;
             }
-            int lift = lift(a);
-            int exponent = Rank.exponent(a) - lift;
+            int liftA = lift(a);
+            int exponent = Rank.exponent(a) - liftA;
             int odd = exponent & 1;
-            long radicand = Rank.significand(a) << (lift + odd);
+            long radicand = Rank.significand(a) << (liftA + odd);
             long rest = 0;
             long digits = 0;
             for (int i = 0; i < ROOT_STEPS; i++) {

@@ -63,7 +63,8 @@ public final class ArithmeticTest {
             Reference.binary(6, x, y).isEmpty(),
         };
         for (int which = 0; which < due.length; which++) {
-            Check.due("relation " + which + " of " + told(x) + " and " + told(y), tape.relation(which, 0, 1), due[which]);
+            String what = "relation " + which + " of " + told(x) + " and " + told(y);
+            Check.due(what, tape.relation(which, 0, 1), due[which]);
         }
     }
 
@@ -93,10 +94,12 @@ public final class ArithmeticTest {
     }
 
     private static void clamps(OutwardTape tape, Reference x, Samples samples) {
-        double[] points = {samples.finite(), x.lower, x.upper, Double.NEGATIVE_INFINITY, Double.POSITIVE_INFINITY, -0.0};
+        double inf = Double.POSITIVE_INFINITY;
+        double[] points = {samples.finite(), x.lower, x.upper, -inf, inf, -0.0};
         for (double d : points) {
             double due = d < x.lower ? x.lower : d > x.upper ? x.upper : d;
-            Check.due("clamp of " + d + " to " + told(x), tape.clamp(0, Double.doubleToLongBits(d)), Check.upperBits(due));
+            long got = tape.clamp(0, Double.doubleToLongBits(d));
+            Check.due("clamp of " + d + " to " + told(x), got, Check.upperBits(due));
         }
     }
 

@@ -23,13 +23,16 @@ public final class CellsTest {
         }
         Check.intervalBits("zeros", tape, Check.put(tape, 0.0, -0.0, Check.COM), Check.MINUS_ZERO, 0, Check.COM);
         Check.intervalBits("zeros", tape, Check.put(tape, -0.0, 0.0, Check.DEF), Check.MINUS_ZERO, 0, Check.DEF);
-        Check.intervalBits("from 0", tape, Check.put(tape, 0.0, 1, Check.COM), Check.MINUS_ZERO, Check.upperBits(1), Check.COM);
+        int right = Check.put(tape, 0.0, 1, Check.COM);
+        Check.intervalBits("from 0", tape, right, Check.MINUS_ZERO, Check.upperBits(1), Check.COM);
         Check.intervalBits("to 0", tape, Check.put(tape, -1, -0.0, Check.COM), Check.lowerBits(-1), 0, Check.COM);
         Check.interval("entire", tape, Check.put(tape, -inf, inf, Check.DAC), -inf, inf, Check.DAC);
         Check.interval("half", tape, Check.put(tape, 1, inf, Check.DAC), 1, inf, Check.DAC);
         Check.interval("half", tape, Check.put(tape, -inf, 1, Check.TRV), -inf, 1, Check.TRV);
-        Check.intervalBits("least", tape, tape.bounds(0x8000000000000001L, 1, Check.COM), 0x8000000000000001L, 1, Check.COM);
-        Check.intervalBits("all", tape, tape.bounds(Check.MINUS_MAX, Check.MAX, 4), Check.MINUS_MAX, Check.MAX, Check.COM);
+        int least = tape.bounds(0x8000000000000001L, 1, Check.COM);
+        Check.intervalBits("least", tape, least, 0x8000000000000001L, 1, Check.COM);
+        int finite = tape.bounds(Check.MINUS_MAX, Check.MAX, Check.COM);
+        Check.intervalBits("all that is finite", tape, finite, Check.MINUS_MAX, Check.MAX, Check.COM);
         Check.ill("half with COM", tape, Check.put(tape, 1, inf, Check.COM));
         Check.ill("half with COM", tape, Check.put(tape, -inf, 1, Check.COM));
         Check.ill("entire with COM", tape, Check.put(tape, -inf, inf, Check.COM));

@@ -23,6 +23,8 @@ public final class LiteralTest {
         spaces();
         decorations();
         wrong();
+        fullTexts();
+        olderTexts();
         againstTheGrammar();
         Check.finish();
     }
@@ -173,6 +175,8 @@ public final class LiteralTest {
         is("[1,2]_def", 1, 2, Check.DEF);
         is("[1,2]_trv", 1, 2, Check.TRV);
         is("[1,2]_DeF", 1, 2, Check.DEF);
+        is("[1,2]_DAC", 1, 2, Check.DAC);
+        is("[1,2]_COM", 1, 2, Check.COM);
         is("[1,]_dac", 1, INF, Check.DAC);
         is("[1,]_def", 1, INF, Check.DEF);
         is("[,]_trv", -INF, INF, Check.TRV);
@@ -189,6 +193,10 @@ public final class LiteralTest {
         isIll("[1]_");
         isIll("[1]_co");
         isIll("[1]_comm");
+        isIll("[1]_bom");
+        isIll("[1]_xac");
+        isIll("[1]_xef");
+        isIll("[1]_xrv");
         isIll("[1]com");
         isIll("[1]__com");
         isIll("[nai]_ill");
@@ -198,11 +206,40 @@ public final class LiteralTest {
         String[] texts = {
             "", " ", "[", "]", "1", "[1", "1]", "[[1]]", "[1]]", "[1,2,3]", "[,,]", "[1,2]x", "[x]", "[.]", "[-]", "[+]", "[e5]",
             "[.e5]", "[1e]", "[1e+]", "[1e-]", "[1e,2]", "[1.2.3]", "[..5]", "[--1]", "[+-1]", "[1-]", "[1e5.]", "[1e1e1]",
-            "[empt]", "[emptyy]", "[entir]", "[entiree]", "[empty,]", "[entire,1]", "[,empty]", "[+empty]", "[infi,1]",
+            "[empt]", "[emptyy]", "[entir]", "[entiree]", "[empty,]", "[entire,1]", "[,empty]", "[+empty]", "[infi,1]", "[-xnf,1]", "[1,+xnfinity]",
             "[-infinit,1]", "[-infinityy,1]", "[1,in]", "[1;2]", "(1,2)", "[0x1]", "[1_com]", "_com", "[]]", "[1,2", "[nai"
         };
         for (String text : texts) {
             isIll(text);
+        }
+    }
+
+    /** Texts of 60 characters that break off in the middle of something. */
+    private static void fullTexts() {
+        String[] breaks = {
+            "", "1", "1.", "1e", "1e-", "1e5", "1,", "1,2", "-", "-i", "-inf", "-infinit", "e", "empt", "entire", "]_", "]_co", "1]_t"
+        };
+        for (String last : breaks) {
+            isIll("[" + " ".repeat(59 - last.length()) + last);
+        }
+        is("[" + " ".repeat(53) + "1]_def", 1, 1, Check.DEF);
+    }
+
+    /** What an older, longer text had behind the end of this one is gone. */
+    private static void olderTexts() {
+        OutwardTape tape = new OutwardTape();
+        String whole = "[-inf,12.5e1]_com";
+        for (int many = whole.length() - 1; many >= 0; many--) {
+            Check.putText(tape, "[-12.5e01,12.5e1]_com");
+            int cell = Check.putText(tape, whole.substring(0, many));
+            if (many == whole.length() - 4) {
+                Check.interval("literal " + whole.substring(0, many), tape, cell, -INF, 125, Check.DAC);
+            } else {
+                Check.ill("literal " + whole.substring(0, many), tape, cell);
+            }
+            if (tape.filled() > 36) {
+                tape.clear();
+            }
         }
     }
 
