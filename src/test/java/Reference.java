@@ -218,4 +218,25 @@ final class Reference {
         boolean bounded = x.isBounded() && y.isBounded() && binary(function, x, y).isBounded();
         return Math.min(mark, bounded ? Check.COM : Check.DAC);
     }
+
+    static boolean relation(int which, Reference x, Reference y) {
+        boolean one = x.isEmpty() || y.isEmpty();
+        boolean both = x.isEmpty() && y.isEmpty();
+        boolean upperIsBelow = below(x.upper, y.upper);
+        switch (which) {
+            case 0: return both || (!one && x.lower == y.lower && x.upper == y.upper);
+            case 1: return x.isEmpty() || (!one && y.has(x.lower) && y.has(x.upper));
+            case 2: return x.isEmpty() || (!one && below(y.lower, x.lower) && upperIsBelow);
+            case 3: return both || (!one && !(x.lower > y.lower) && !(x.upper > y.upper));
+            case 4: return one || x.upper <= y.lower;
+            case 5: return both || (!one && below(x.lower, y.lower) && upperIsBelow);
+            case 6: return one || x.upper < y.lower;
+            case 7: return binary(6, x, y).isEmpty();
+            default: throw new IllegalArgumentException();
+        }
+    }
+
+    private static boolean below(double a, double b) {
+        return a < b || (a == b && Double.isInfinite(a));
+    }
 }

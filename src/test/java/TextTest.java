@@ -33,19 +33,15 @@ public final class TextTest {
     }
 
     private static void wrongCharacters() {
-        OutwardTape tape = new OutwardTape();
-        tape.type('[');
         for (int c = 1; c < 256; c++) {
             boolean fits = c >= 32 && c <= 126;
-            int before = tape.length();
-            Check.due("type of character " + c, tape.type(c), fits);
-            Check.due("length after character " + c, tape.length(), fits ? before + 1 : before);
-            if (tape.length() > 50) {
-                tape.wipe();
-            }
+            OutwardTape fresh = new OutwardTape();
+            fresh.type('[');
+            Check.due("type of character " + c, fresh.type(c), fits);
+            Check.due("length after character " + c, fresh.length(), fits ? 2 : 1);
         }
         int[] wrong = {-1, 0x7F, 0x5B313180, 0x805B3131, 0x5B1F3131, 0x5B317F31, 0xFF000000, 0x0000000A, 0x1F000000};
-        tape.wipe();
+        OutwardTape tape = new OutwardTape();
         tape.type('[');
         for (int w : wrong) {
             Check.due("type of " + w, tape.type(w), false);
