@@ -15,7 +15,9 @@ public final class EdgesOfDoublesTest extends Edges {
         betweenZeroAndTheLeast();
         betweenSubnormals();
         decimals();
+        inexactByOneFarBit();
         nearest();
+        nearestOfLongSums();
         nearestOfTwo();
         nearestAmongTheLeast();
         nearestAmongTheGreatest();
@@ -247,6 +249,26 @@ public final class EdgesOfDoublesTest extends Edges {
         literal("[0.99999999999999999]", com(below(1), 1));
     }
 
+    /** A single bit behind a row of zeros, however far, makes a value no double. */
+    private static void inexactByOneFarBit() {
+        one(2, com(1 + 0x1p-26), com(1 + 0x1p-25 + 0x1p-52));
+        for (int k = 27; k <= 52; k++) {
+            double d = 1 + Math.scalb(1.0, -k);
+            double due = 1 + Math.scalb(1.0, 1 - k);
+            between(2, d, d, due);
+            between(2, -d, d, -above(due));
+            one(2, com(d), com(due, above(due)));
+            two(3, com(due), com(d), com(below(d), d));
+            one(3, com(due), com(below(d), d));
+        }
+        for (int k = 54; k <= 1074; k++) {
+            double little = Math.scalb(1.0, -k);
+            between(0, 1, little, 1);
+            between(0, -1, little, -1);
+            between(1, 2, little, below(2));
+        }
+    }
+
     private static void middle(double lower, double upper, double due) {
         OutwardTape tape = new OutwardTape();
         Check.put(tape, lower, upper, Check.TRV);
@@ -270,6 +292,20 @@ public final class EdgesOfDoublesTest extends Edges {
             middle(-above(0x1p-53), 1 + k * 0x1p-52, below(half));
             middle(-MIN, 1 + k * 0x1p-52, half);
         }
+    }
+
+    /** The same where the sum of the bounds has one binary digit more than they have. */
+    private static void nearestOfLongSums() {
+        middle(below(0x1p-51), below(2), 1);
+        middle(0x1p-51, below(2), 1);
+        middle(above(0x1p-51), below(2), above(1));
+        middle(below(0x1p-50), below(2), above(1));
+        middle(0x1p-50, below(2), above(above(1)));
+        middle(above(0x1p-50), below(2), above(above(1)));
+        middle(1, 2, 1.5);
+        middle(above(1), 2, 1.5);
+        middle(above(1), above(2), 1.5 + 0x1p-51);
+        middle(below(2), 2, 2);
     }
 
     /** "of two the one with an even f" */

@@ -34,6 +34,8 @@ public final class EdgesOfLiteralsTest extends Edges {
         decorationsWithMark();
         marksThatAreNone();
         longestTexts();
+        everyScale();
+        textsOneAfterAnother();
         everyTextOneCharacterAway();
         Check.finish();
     }
@@ -157,8 +159,8 @@ public final class EdgesOfLiteralsTest extends Edges {
         is("3.e1", 30);
         is(".3e1", 3);
         for (String none : new String[] {
-            "3e", "3e+", "3e-", "3e000", "3e001", "3e+001", "3e-001", "3e100", "3e.", "3e1.", "3e1.0", "3e1e1", "3ee1", "3e++1", "3e+-1",
-            "3e1+", "3e1-1", "3f1", "3d1", "e", "e1"
+            "3e", "3e+", "3e-", "3e000", "3e001", "3e+001", "3e-001", "3e100", "3e.", "3e1.", "3e1.0", "3e1e1", "3ee1",
+            "3e++1", "3e+-1", "3e1+", "3e1-1", "3f1", "3d1", "e", "e1"
         }) {
             noNumber(none);
         }
@@ -310,7 +312,9 @@ public final class EdgesOfLiteralsTest extends Edges {
     /** "[ x ], x a number": no infinity, no second comma */
     private static void onePointOnly() {
         is("5", 5);
-        for (String none : new String[] {"inf", "-inf", "+inf", "infinity", "-infinity", "+infinity", "5 5", "5;5", "5,5,5"}) {
+        for (String none : new String[] {
+            "inf", "-inf", "+inf", "infinity", "-infinity", "+infinity", "5 5", "5;5", "5,5,5"
+        }) {
             literal("[" + none + "]", ILL);
         }
     }
@@ -387,6 +391,8 @@ public final class EdgesOfLiteralsTest extends Edges {
         literal("[-0,+0]", com(0.0));
         literal("[0,-0]", com(0.0));
         literal("[0e40,0e-40]", com(0.0));
+        literal("[0e-40,0e40]", com(0.0));
+        literal("[-0e-40,-0e40]", com(0.0));
         literal("[0,1e-40]", com(0, up("1e-40")));
         literal("[1e-40,0]", ILL);
         literal("[0,-1e-40]", ILL);
@@ -491,8 +497,8 @@ public final class EdgesOfLiteralsTest extends Edges {
 
     private static void marksThatAreNone() {
         for (String mark : new String[] {
-            "_", "__com", "com", "-com", "_c", "_co", "_comm", "_ill", "_nai", "_tr", "_trvv", "_de", "_deff", "_da", "_dacc", "_com,dac",
-            "_4", "_com_", "_dec", "_tac", "_dom"
+            "_", "__com", "com", "-com", "_c", "_co", "_comm", "_ill", "_nai", "_tr", "_trvv", "_de", "_deff", "_da",
+            "_dacc", "_com,dac", "_4", "_com_", "_dec", "_tac", "_dom"
         }) {
             literal("[1]" + mark, ILL);
             literal("[]" + mark, ILL);
@@ -512,6 +518,37 @@ public final class EdgesOfLiteralsTest extends Edges {
         literal("[" + " ".repeat(54) + "1]_tr", ILL);
         literal("[" + " ".repeat(54) + "empty", ILL);
         literal("[" + " ".repeat(55) + "1e+1", ILL);
+    }
+
+    /** From -40 to 40, the fewest and the most digits, rounded either way. */
+    private static void everyScale() {
+        String[] digits = {
+            "1", "2", "5", "7", "9", "99", "1".repeat(18), "9".repeat(17), "9".repeat(18), "5".repeat(18)
+        };
+        for (int scale = -41; scale <= 41; scale++) {
+            for (String all : digits) {
+                Grammar.compare("[" + all + "e" + scale + "]");
+                Grammar.compare("[-" + all + "e" + scale + "]");
+                Grammar.compare("[." + all + "e" + (scale + all.length()) + "]");
+            }
+        }
+        for (int point = 0; point <= 18; point++) {
+            for (char digit = '1'; digit <= '9'; digit++) {
+                String all = String.valueOf(digit).repeat(18);
+                Grammar.compare("[" + all.substring(0, point) + "." + all.substring(point) + "]");
+            }
+        }
+    }
+
+    /** What one text said does not reach into what the next one says. */
+    private static void textsOneAfterAnother() {
+        for (String first : SAMPLES) {
+            for (String second : SAMPLES) {
+                OutwardTape tape = new OutwardTape();
+                Grammar.due(first).due("literal " + first, tape, Check.putText(tape, first));
+                Grammar.due(second).due(second + " behind " + first, tape, Check.putText(tape, second));
+            }
+        }
     }
 
     /** All texts that come of these by one character changed, put in or left out, against the grammar. */

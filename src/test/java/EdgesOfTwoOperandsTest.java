@@ -94,7 +94,9 @@ public final class EdgesOfTwoOperandsTest extends Edges {
     private static void oneCellTwice() {
         OutwardTape tape = new OutwardTape();
         com(-1, 2).putOn(tape);
-        Told[] due = {com(-2, 4), com(-3, 3), com(-2, 4), trv(-INF, INF), com(-1, 2), com(-1, 2), trv(-1, 2), trv(-1, 2)};
+        Told[] due = {
+            com(-2, 4), com(-3, 3), com(-2, 4), trv(-INF, INF), com(-1, 2), com(-1, 2), trv(-1, 2), trv(-1, 2)
+        };
         for (int function = SUM; function <= HULL; function++) {
             due[function].due("function " + function + " of a cell twice", tape, tape.binary(function, 0, 0));
         }
@@ -201,7 +203,8 @@ public final class EdgesOfTwoOperandsTest extends Edges {
     }
 
     private static void quotientByZero() {
-        for (Told x : new Told[] {com(1, 2), com(-2, -1), com(-1, 2), com(0.0), com(0, 1), dac(1, INF), dac(-INF, INF)}) {
+        Told[] all = {com(1, 2), com(-2, -1), com(-1, 2), com(0.0), com(0, 1), dac(1, INF), dac(-INF, INF)};
+        for (Told x : all) {
             two(QUOTIENT, x, com(0.0), EMPTY);
         }
         two(QUOTIENT, com(1, 2), com(0, MIN), trv(MAX, INF));

@@ -15,15 +15,14 @@ final class Grammar {
 
     static void compare(String text) {
         OutwardTape tape = new OutwardTape();
-        int cell = Check.putText(tape, text);
+        due(text).due("literal " + text, tape, Check.putText(tape, text));
+    }
+
+    static Told due(String text) {
         Matcher whole = LITERAL.matcher(text.toLowerCase());
         Reference due = whole.matches() ? inside(whole.group(1)) : null;
         int mark = due == null ? Check.ILL : decorated(due, whole.group(2));
-        if (mark == Check.ILL) {
-            Check.ill("literal " + text, tape, cell);
-        } else {
-            Check.interval("literal " + text, tape, cell, due.lower, due.upper, mark);
-        }
+        return mark == Check.ILL ? Told.ILL : due.isEmpty() ? Told.EMPTY : new Told(due.lower, due.upper, mark);
     }
 
     private static int decorated(Reference x, String asked) {
