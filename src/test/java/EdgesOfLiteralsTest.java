@@ -35,6 +35,7 @@ public final class EdgesOfLiteralsTest extends Edges {
         marksThatAreNone();
         longestTexts();
         everyScale();
+        nearestToADouble();
         textsOneAfterAnother();
         everyTextOneCharacterAway();
         Check.finish();
@@ -537,6 +538,21 @@ public final class EdgesOfLiteralsTest extends Edges {
                 String all = String.valueOf(digit).repeat(18);
                 Grammar.compare("[" + all.substring(0, point) + "." + all.substring(point) + "]");
             }
+        }
+    }
+
+    /** The decimal numbers that come nearest to a double without being one, above and below it. */
+    private static void nearestToADouble() {
+        String[] numbers = {
+            "961935638846030711e37", "261662474379968843e33", "945584020171432629e-33", "945584020171432629e-34",
+            "247201515998363343e35", "483974452406758157e40", "176799803764893423e-31", "883999018824467115e-32",
+            "412002526663938905e34", "778956024633093813e-29", "670799766809950217e32", "595833608565072371e-27",
+            "483182414246996419e-40", "275131932683924741e40", "33199761964788993e-40", "26105314965354177e39"
+        };
+        for (String number : numbers) {
+            Check.due(number + " is no double", up(number) == above(down(number)), true);
+            literal("[" + number + "]", com(down(number), up(number)));
+            literal("[-" + number + "]", com(-up(number), -down(number)));
         }
     }
 
